@@ -665,7 +665,7 @@ public final class ActHouse {
     /** The log: an entry is one number, so that long runs of rings stay small. */
     private static final class LogBook {
         private static final int FIRST_ROOM = 256;
-        private static final int MOST_ENTRIES = 1 << 20;
+        private static final int MOST_ENTRIES = 1048576;
 
         int[] entries = new int[FIRST_ROOM];
         int size;
