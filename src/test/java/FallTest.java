@@ -10,6 +10,8 @@ public final class FallTest {
         stoppedOnesWaitAgain();
         stoppedByAFallStaysStopped();
         countersAreAsTheDoneTell();
+        nothingIsLeftOfTheLog();
+        counterBelowItsFloor();
         Due.end("FallTest");
     }
 
@@ -202,5 +204,43 @@ public final class FallTest {
         Due.same("as of tick 0", house.value(31, 0), 0);
         house.go(12);
         Due.same("all done again", house.value(31, 18), 17);
+    }
+
+    private static void nothingIsLeftOfTheLog() {
+        ActHouse house = new ActHouse();
+        Due.lay(house, 0, Due.set(1), Due.write(0));
+        house.act(0, 0, 0);
+        house.go(3);
+        Due.same("fall(0)", house.fall(0), 1);
+        Due.same("no entries", house.count(2), 0);
+        Due.same("none kept", house.count(3), 0);
+        Due.same("log(0, 0)", house.log(0, 0), -1);
+        house.go(1);
+        Due.same("the first entry is new", house.log(0, 3), 3);
+    }
+
+    /** The floor is raised on what a fall then takes away. */
+    private static void counterBelowItsFloor() {
+        ActHouse house = new ActHouse();
+        Due.lay(house, 0, Due.hot(0, -5));
+        Due.lay(house, 1, Due.hot(0, 10));
+        Due.lay(house, 2, Due.hot(0, 0));
+        Due.lay(house, 3, Due.hot(0, -1));
+        house.floor(0, -5);
+        house.act(0, 0, 0);
+        house.go(4);
+        house.act(1, 0, 0);
+        house.go(2);
+        Due.same("5 is there", house.value(24, 6), 5);
+        Due.same("floor(0, 0)", house.floor(0, 0), true);
+        house.limit(0, 0);
+        Due.same("fall(0)", house.fall(0), 1);
+        Due.same("below the floor", house.value(24, 6), -5);
+        Due.same("the floor can't be set there again", house.floor(0, 0), false);
+        house.act(2, 1, 0);
+        house.act(3, 1, 0);
+        house.go(2);
+        Due.same("0 more can be all the same", house.told(2, 6), 7);
+        Due.same("1 less can't", house.told(3, 5), 1);
     }
 }

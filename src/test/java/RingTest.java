@@ -10,6 +10,8 @@ public final class RingTest {
         upgradeOfThreeReaders();
         begunAgainInTheSameTick();
         ringBreaksAtOtherWaitsToo();
+        whatTheUndoneWasToGiveIsForgotten();
+        waitsOfEarlierTicksAreForgotten();
         Due.end("RingTest");
     }
 
@@ -153,7 +155,7 @@ public final class RingTest {
 
     private static void begunAgainInTheSameTick() {
         ActHouse house = new ActHouse();
-        Due.lay(house, 0, Due.add(3), Due.read(0), Due.write(0), Due.set(0));
+        Due.lay(house, 0, Due.read(0), Due.add(3), Due.write(0), Due.set(0));
         house.act(0, 0, 0);
         house.act(0, 0, 0);
         house.go(4);
@@ -165,8 +167,10 @@ public final class RingTest {
         Due.same("it holds nothing", house.holds(1, 0), 0);
         Due.same("in this tick it was held", house.told(1, 5), 1);
         house.go(1);
-        Due.same("in the next it was not", house.told(1, 5), 0);
-        Due.same("its first step is done again", house.register(1), 3);
+        Due.same("in the next too, for the other writes", house.told(1, 5), 1);
+        house.go(1);
+        Due.same("then it was not", house.told(1, 5), 0);
+        Due.same("its first step is done again", house.told(1, 4), 1);
     }
 
     /** The ring goes through an act that waits for two holders at once. */
@@ -183,5 +187,43 @@ public final class RingTest {
         Due.same("the reader beside stays", house.told(1, 7), 0);
         Due.same("the greatest of the ring goes", house.told(2, 7), 1);
         Due.same("the other stays", house.told(0, 7), 0);
+    }
+
+    private static void whatTheUndoneWasToGiveIsForgotten() {
+        ActHouse house = new ActHouse();
+        house.floor(0, -5);
+        Due.lay(house, 0, Due.read(0), Due.set(0), Due.set(0), Due.write(0));
+        Due.lay(house, 1, Due.read(0), Due.hot(0, -5), Due.queue(7), Due.write(0));
+        house.act(0, 0, 0);
+        house.act(1, 0, 0);
+        house.go(4);
+        Due.same("all of the counter is taken", house.floor(0, -4), false);
+        house.limit(0, 0);
+        house.go(1);
+        Due.same("the taker is undone", house.told(1, 7), 1);
+        Due.same("nothing is taken", house.floor(0, -4), true);
+        house.floor(0, -5);
+        house.limit(0, 3);
+        house.go(9);
+        Due.same("done in the end", house.told(1, 0), 3);
+        Due.same("given once", house.value(24, 14), -5);
+        Due.same("queued once", house.count(1), 3);
+    }
+
+    /** Act 1's place in the row of the begun goes to act 2, whom act 0 never waited for. */
+    private static void waitsOfEarlierTicksAreForgotten() {
+        ActHouse house = new ActHouse();
+        Due.lay(house, 0, Due.write(1), Due.read(0), Due.set(0), Due.set(0));
+        Due.lay(house, 1, Due.write(0), Due.set(0), Due.set(0));
+        Due.lay(house, 2, Due.set(0), Due.set(0), Due.set(0), Due.write(1), Due.set(0));
+        for (int i = 0; i < 3; i++) {
+            house.act(i, 0, 0);
+        }
+        house.go(4);
+        Due.same("act 0 waited for act 1", house.told(0, 5), 1);
+        house.go(1);
+        Due.same("act 2 waits for act 0", house.told(2, 5), 1);
+        Due.same("but act 0 goes on", house.told(0, 5), 0);
+        Due.same("no ring", house.count(7), 0);
     }
 }
