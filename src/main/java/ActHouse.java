@@ -724,10 +724,8 @@ public final class ActHouse {
             direct[from] |= 1L << to;
         }
 
+        /** Others may wait for it still, but no ring goes through one that waits for nobody. */
         void remove(int slot) {
-            for (int i = 0; i < many; i++) {
-                direct[i] &= ~(1L << slot);
-            }
             direct[slot] = 0L;
         }
 

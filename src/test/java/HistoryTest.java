@@ -5,6 +5,7 @@ public final class HistoryTest {
         wrongQuestions();
         rowOfDoneActs();
         entriesAsTheyCome();
+        longLog();
         counts();
         Due.end("HistoryTest");
     }
@@ -106,6 +107,28 @@ public final class HistoryTest {
         Due.same("act", house.log(1, 1), 79);
         Due.same("cell", house.log(1, 2), 23);
         Due.same("tick", house.log(1, 3), 4999);
+    }
+
+    /** Two entries a tick, for 400 ticks: each of them is told right. */
+    private static void longLog() {
+        ActHouse house = new ActHouse();
+        Due.lay(house, 0, Due.read(0), Due.write(0), Due.set(0));
+        house.limit(0, 2);
+        house.act(0, 0, 9);
+        house.act(0, 0, 0);
+        // act 1 reads, wants to write, is undone and begun again, in each second tick
+        house.go(200);
+        house.go(200);
+        Due.same("entries", house.count(2), 2 + 199 * 2);
+        for (int i = 2; i < 400; i += 57) {
+            Due.same("kind of " + i, house.log(i, 0), i % 2 == 0 ? 4 : 0);
+            Due.same("act of " + i, house.log(i, 1), 1);
+            Due.same("cell of " + i, house.log(i, 2), -1);
+            Due.same("tick of " + i, house.log(i, 3), i / 2 * 2);
+        }
+        Due.same("the first", house.log(0, 1), 1);
+        Due.same("the last", house.log(399, 3), 398);
+        Due.same("none behind it", house.log(400, 0), -1);
     }
 
     private static void counts() {
