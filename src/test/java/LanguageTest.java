@@ -5,7 +5,9 @@ import java.lang.reflect.Modifier;
 import java.nio.file.Files;
 import java.nio.file.Path;
 import java.util.Arrays;
+import java.util.Map;
 import java.util.Set;
+import java.util.TreeMap;
 import java.util.TreeSet;
 import java.util.regex.Matcher;
 import java.util.regex.Pattern;
@@ -24,6 +26,7 @@ public final class LanguageTest {
         classesInside();
         wordsThatMustNotStand(code);
         methodsAreShort(source);
+        callsGoEightDeep(code);
         Due.end("LanguageTest");
     }
 
@@ -114,5 +117,34 @@ public final class LanguageTest {
             }
             Due.same("width of line " + (i + 1), lines[i].length() <= 120, true);
         }
+    }
+
+    /** Rule 11: names stand for methods here, so two of one name would count as one; there is no such pair. */
+    private static void callsGoEightDeep(String code) {
+        Map<String, String> bodies = new TreeMap<>();
+        Matcher heads = Pattern.compile("(?m)^( {4}| {8})(?:[\\w\\[\\]]+ )*(\\w+)\\([^()]*\\) \\{$").matcher(code);
+        while (heads.find()) {
+            if (!heads.group(2).matches("if|for|while|switch")) {
+                int end = code.indexOf("\n" + heads.group(1) + "}", heads.end());
+                String before = bodies.put(heads.group(2), code.substring(heads.end(), end));
+                Due.same("two methods are called " + heads.group(2), before != null, false);
+            }
+        }
+        Due.same("methods are found", bodies.size() > FACE.size(), true);
+        for (String name : bodies.keySet()) {
+            int depth = depthFrom(name, bodies, 1);
+            Due.same("calls from " + name + " on go " + depth + " deep", depth <= 8, true);
+        }
+    }
+
+    private static int depthFrom(String name, Map<String, String> bodies, int depth) {
+        int deepest = depth;
+        Matcher calls = Pattern.compile("\\b(\\w+)\\(").matcher(bodies.get(name));
+        while (calls.find() && depth <= 8) {
+            boolean own = bodies.containsKey(calls.group(1));
+            boolean library = calls.group(1).matches("copyOf|fill|arraycopy|min");
+            deepest = Math.max(deepest, own ? depthFrom(calls.group(1), bodies, depth + 1) : library ? depth + 1 : depth);
+        }
+        return deepest;
     }
 }
